@@ -1847,7 +1847,7 @@ public final class LakeMarket {
     /** Looks for the fewest moves, by one more at a time. */
     private static final class Mover {
         private static final int MOST = 4;
-        private static final int SEEN = 4096;
+        private static final int SEEN = 2048;
 
         private final int[] goals = new int[LAKES];
         private final int[] rooms = new int[HOLLOWS];
@@ -1996,7 +1996,7 @@ public final class LakeMarket {
             for (int lake = 0; lake < scene.land.lakes; lake++) {
                 key = key * HOLLOWS + Math.max(0, scene.lies[lake]);
             }
-            int slot = (key * 0x9E3779B1) >>> 20;
+            int slot = (key * 0x9E3779B1) >>> 21;
             for (int tries = 0; tries < SEEN; tries++) {
                 if (seen[slot] == key) {
                     return true;
