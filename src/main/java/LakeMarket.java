@@ -20,6 +20,9 @@ public final class LakeMarket {
     private static final int MOST_WORTH = 9999;
     private static final int MOST_PRICE = 9999;
     private static final int MOST_DEBT = 9999;
+    private static final int MOST_TOLD_DEBT = 999;
+    private static final int MOST_PLACE = 99;
+    private static final int HUNDRED = 100;
     private static final int NOBODY_CAME = 256;
 
     private static final int REFUSED_TAPE = 0;
@@ -160,8 +163,8 @@ public final class LakeMarket {
     public int lowland() {
         int size = takeTape();
         if (!reader.readAll(size, draft)) {
-            faultKind = reader.faultKind;
-            faultPlace = reader.faultPlace;
+            faultKind = reader.tokens.faultKind;
+            faultPlace = reader.tokens.faultPlace;
             return refuse(REFUSED_LOWLAND);
         }
         Lowland old = told;
@@ -451,16 +454,16 @@ public final class LakeMarket {
         remember();
         int droughts = 0;
         for (int i = 0; i < n; i++) {
-            int drought = drawOfHundred() < told.drought ? 1 : 0;
+            int drought = draw(HUNDRED) < told.drought ? 1 : 0;
             droughts += drought;
             now.passNight(drought);
         }
         return droughts;
     }
 
-    private int drawOfHundred() {
+    private int draw(int m) {
         lot = (1103515245 * lot + 12345) & 0x7fffffff;
-        return (lot / 64) % 100;
+        return m > 0 ? (lot / 64) % m : 0;
     }
 
     public boolean move(int lake, int hollow) {
@@ -643,11 +646,13 @@ public final class LakeMarket {
             return ruleTo[rule] > ruleFrom[rule];
         }
 
-        void emit(int op) {
-            if (coded < TAPE) {
-                code[coded] = op;
-                coded++;
+        boolean emit(int op) {
+            if (coded >= TAPE) {
+                return false;
             }
+            code[coded] = op;
+            coded++;
+            return true;
         }
 
         int find(int[] names, int count, int name) {
@@ -668,7 +673,8 @@ public final class LakeMarket {
         }
 
         boolean isTaken(int name) {
-            return findHollow(name) != NONE || findOwner(name) != NONE || find(lakeNames, lakes, name) != NONE;
+            return find(hollowNames, hollows, name) != NONE || find(ownerNames, owners, name) != NONE
+                    || find(lakeNames, lakes, name) != NONE;
         }
 
         int letterOf(int name, int k) {
@@ -704,13 +710,15 @@ public final class LakeMarket {
         int place;
         /** The number, the sign, the own word's number, or the letters of a name, five bits each. */
         int value;
+        int faultKind;
+        int faultPlace;
 
         Tokens(int[] tape) {
             this.tape = tape;
         }
 
-        void begin(int size) {
-            this.size = size;
+        void begin(int length) {
+            size = length;
             next = 0;
             kind = END;
             advance();
@@ -724,10 +732,39 @@ public final class LakeMarket {
             return kind == OWN && value == word;
         }
 
-        void advance() {
+        boolean needSign(int sign) {
+            return isSign(sign) || failForm();
+        }
+
+        boolean needOwn(int word) {
+            return isOwn(word) || failForm();
+        }
+
+        boolean needKind(int wanted) {
+            return kind == wanted || failForm();
+        }
+
+        /** A fault at the first byte of what stands here; always false. */
+        boolean fail(int fault) {
+            faultKind = fault;
+            faultPlace = from;
+            return false;
+        }
+
+        /** What stands here can't stand here; always false. */
+        boolean failForm() {
+            faultKind = FAULT_FORM;
+            faultPlace = place;
+            return false;
+        }
+
+        /** Goes to the next one; always true, so that it can stand among what must hold. */
+        boolean advance() {
             boolean behindText = isText();
             int before = next;
-            skipBlanks();
+            while (next < size && (tape[next] == 32 || tape[next] == 10)) {
+                next++;
+            }
             from = next;
             place = next;
             if (next >= size) {
@@ -744,16 +781,11 @@ public final class LakeMarket {
             if (behindText && from == before && isText()) {
                 kind = BAD;
             }
+            return true;
         }
 
         private boolean isText() {
             return kind == NAME || kind == OWN || kind == NUMBER;
-        }
-
-        private void skipBlanks() {
-            while (next < size && (tape[next] == 32 || tape[next] == 10)) {
-                next++;
-            }
         }
 
         private static boolean isLetter(int octet) {
@@ -791,24 +823,17 @@ public final class LakeMarket {
         }
 
         private int findOwn(int length) {
-            if (length >= OWN_WIDTH) {
-                return NONE;
-            }
-            for (int word = 0; word < OWN_COUNT; word++) {
-                if (isWord(word * OWN_WIDTH, length)) {
+            for (int word = 0; word < OWN_COUNT && length < OWN_WIDTH; word++) {
+                int at = word * OWN_WIDTH;
+                int same = 0;
+                while (same < length && OWN_WORDS.charAt(at + same) == tape[from + same]) {
+                    same++;
+                }
+                if (same == length && OWN_WORDS.charAt(at + length) == ' ') {
                     return word;
                 }
             }
             return NONE;
-        }
-
-        private boolean isWord(int at, int length) {
-            for (int k = 0; k < length; k++) {
-                if (OWN_WORDS.charAt(at + k) != tape[from + k]) {
-                    return false;
-                }
-            }
-            return OWN_WORDS.charAt(at + length) == ' ';
         }
 
         private void readNumber() {
@@ -830,12 +855,10 @@ public final class LakeMarket {
 
     /** Reads a text into a lowland; each method answers whether all went well so far. */
     private static final class Reader {
-        private final Tokens tokens;
+        final Tokens tokens;
         private final RuleReader rules;
         private Lowland land;
         private int taken;
-        int faultKind;
-        int faultPlace;
 
         Reader(int[] tape) {
             tokens = new Tokens(tape);
@@ -854,62 +877,45 @@ public final class LakeMarket {
             return true;
         }
 
-        private boolean fail(int kind, int place) {
-            faultKind = kind;
-            faultPlace = place;
-            return false;
-        }
-
-        private boolean failForm() {
-            return fail(FAULT_FORM, tokens.place);
-        }
-
         private boolean readStatement() {
             if (land.statements == STATEMENTS) {
-                return fail(FAULT_TOO_MANY, tokens.from);
+                return tokens.fail(FAULT_TOO_MANY);
             }
-            if (tokens.kind != Tokens.OWN) {
-                return failForm();
-            }
-            int word = tokens.value;
-            if (isOneTooMany(word)) {
-                return fail(FAULT_TOO_MANY, tokens.from);
-            }
-            if (!readBody(word)) {
+            if (!tokens.needKind(Tokens.OWN)) {
                 return false;
             }
-            if (!tokens.isSign(';')) {
-                return failForm();
+            if (isOneTooMany(tokens.value)) {
+                return tokens.fail(FAULT_TOO_MANY);
+            }
+            boolean good;
+            switch (tokens.value) {
+                case WORD_HOLLOW: good = readHollow(); break;
+                case WORD_OWNER: good = readOwner(); break;
+                case WORD_LAKE: good = readLake(); break;
+                case WORD_OWES: good = readDebt(); break;
+                case WORD_LEAKS: good = rules.readRule(RULE_LEAKS, land); break;
+                case WORD_WORTH: good = rules.readRule(RULE_WORTH, land); break;
+                case WORD_MAY: good = rules.readRule(RULE_MAY, land); break;
+                case WORD_DROUGHT: good = readDrought(); break;
+                case WORD_CARTS: good = readCarts(); break;
+                default: good = tokens.failForm(); break;
+            }
+            if (!good || !tokens.needSign(';')) {
+                return false;
             }
             land.statements++;
-            tokens.advance();
-            return true;
+            return tokens.advance();
         }
 
         private boolean isOneTooMany(int word) {
             switch (word) {
-                case WORD_HOLLOW: return land.hollows == HOLLOWS;
-                case WORD_OWNER: return land.owners == OWNERS;
-                case WORD_LAKE: return land.lakes == LAKES;
+                case WORD_HOLLOW: return land.hollows >= HOLLOWS;
+                case WORD_OWNER: return land.owners >= OWNERS;
+                case WORD_LAKE: return land.lakes >= LAKES;
                 case WORD_LEAKS: return land.hasRule(RULE_LEAKS);
                 case WORD_WORTH: return land.hasRule(RULE_WORTH);
                 case WORD_MAY: return land.hasRule(RULE_MAY);
                 default: return false;
-            }
-        }
-
-        private boolean readBody(int word) {
-            switch (word) {
-                case WORD_HOLLOW: return readHollow();
-                case WORD_OWNER: return readOwner();
-                case WORD_LAKE: return readLake();
-                case WORD_OWES: return readDebt();
-                case WORD_LEAKS: return readRule(RULE_LEAKS);
-                case WORD_WORTH: return readRule(RULE_WORTH);
-                case WORD_MAY: return readRule(RULE_MAY);
-                case WORD_DROUGHT: return readDrought();
-                case WORD_CARTS: return readCarts();
-                default: return failForm();
             }
         }
 
@@ -923,7 +929,7 @@ public final class LakeMarket {
                 return false;
             }
             int holds = taken;
-            if (!takeWord(WORD_AT) || !takeNumber(0, 99)) {
+            if (!takeWord(WORD_AT) || !takeNumber(0, MOST_PLACE)) {
                 return false;
             }
             land.hollowNames[land.hollows] = name;
@@ -978,7 +984,7 @@ public final class LakeMarket {
                 return false;
             }
             int other = taken;
-            if (!takeNumber(0, 999)) {
+            if (!takeNumber(0, MOST_TOLD_DEBT)) {
                 return false;
             }
             land.debts[owner * OWNERS + other] = taken;
@@ -987,7 +993,7 @@ public final class LakeMarket {
 
         private boolean readDrought() {
             tokens.advance();
-            if (!takeNumber(0, 100)) {
+            if (!takeNumber(0, HUNDRED)) {
                 return false;
             }
             land.drought = taken;
@@ -1003,65 +1009,52 @@ public final class LakeMarket {
             return true;
         }
 
-        private boolean readRule(int rule) {
-            tokens.advance();
-            return rules.readRule(rule, land) || fail(rules.faultKind, rules.faultPlace);
-        }
-
         private boolean takeWord(int word) {
-            if (!tokens.isOwn(word)) {
-                return failForm();
-            }
-            tokens.advance();
-            return true;
+            return tokens.needOwn(word) && tokens.advance();
         }
 
         private boolean takeNumber(int least, int most) {
-            if (tokens.kind != Tokens.NUMBER) {
-                return failForm();
+            if (!tokens.needKind(Tokens.NUMBER)) {
+                return false;
             }
-            if (tokens.value < least || tokens.value > most) {
-                return fail(FAULT_NUMBER, tokens.from);
+            taken = tokens.value;
+            if (taken < least || taken > most) {
+                return tokens.fail(FAULT_NUMBER);
             }
-            return take(tokens.value);
-        }
-
-        private boolean take(int value) {
-            taken = value;
-            tokens.advance();
-            return true;
+            return tokens.advance();
         }
 
         private boolean takeNewName() {
-            if (tokens.kind != Tokens.NAME) {
-                return failForm();
+            if (!tokens.needKind(Tokens.NAME)) {
+                return false;
             }
-            if (land.isTaken(tokens.value)) {
-                return fail(FAULT_NAME_TAKEN, tokens.from);
+            taken = tokens.value;
+            if (land.isTaken(taken)) {
+                return tokens.fail(FAULT_NAME_TAKEN);
             }
-            return take(tokens.value);
+            return tokens.advance();
         }
 
         private boolean takeHollowWithRoom(int barrels) {
-            if (tokens.kind != Tokens.NAME) {
-                return failForm();
+            if (!tokens.needKind(Tokens.NAME)) {
+                return false;
             }
-            int hollow = land.findHollow(tokens.value);
-            if (hollow == NONE || land.roomAtFirst(hollow) < barrels) {
-                return fail(FAULT_NAME_WRONG, tokens.from);
+            taken = land.findHollow(tokens.value);
+            if (taken == NONE || land.roomAtFirst(taken) < barrels) {
+                return tokens.fail(FAULT_NAME_WRONG);
             }
-            return take(hollow);
+            return tokens.advance();
         }
 
         private boolean takeOwnerBut(int notThisOne) {
-            if (tokens.kind != Tokens.NAME) {
-                return failForm();
+            if (!tokens.needKind(Tokens.NAME)) {
+                return false;
             }
-            int owner = land.findOwner(tokens.value);
-            if (owner == NONE || owner == notThisOne) {
-                return fail(FAULT_NAME_WRONG, tokens.from);
+            taken = land.findOwner(tokens.value);
+            if (taken == NONE || taken == notThisOne) {
+                return tokens.fail(FAULT_NAME_WRONG);
             }
-            return take(owner);
+            return tokens.advance();
         }
     }
 
@@ -1070,8 +1063,6 @@ public final class LakeMarket {
         private final Tokens tokens;
         private Lowland land;
         private int rule;
-        int faultKind;
-        int faultPlace;
 
         RuleReader(Tokens tokens) {
             this.tokens = tokens;
@@ -1081,6 +1072,7 @@ public final class LakeMarket {
             rule = which;
             land = into;
             int from = land.coded;
+            tokens.advance();
             if (!(rule == RULE_MAY ? readTest(0) : readSum(0))) {
                 return false;
             }
@@ -1089,45 +1081,16 @@ public final class LakeMarket {
             return true;
         }
 
-        private boolean failForm() {
-            faultKind = FAULT_FORM;
-            faultPlace = tokens.place;
-            return false;
-        }
-
-        /** Goes behind what opens something; open tells how many are open ahead of it. */
-        private boolean takeOpening(int open) {
-            if (open >= OPEN_AT_ONCE) {
-                faultKind = FAULT_TOO_DEEP;
-                faultPlace = tokens.from;
-                return false;
-            }
-            tokens.advance();
-            return true;
-        }
-
-        private boolean takeSign(int sign) {
-            if (!tokens.isSign(sign)) {
-                return failForm();
-            }
-            tokens.advance();
-            return true;
-        }
-
-        private boolean takeBracket(int open) {
-            return tokens.isSign('(') ? takeOpening(open) : failForm();
-        }
-
-        private boolean emit(int op) {
-            land.emit(op);
-            return true;
+        /** Whether one more may be open where so many are. */
+        private boolean mayOpen(int open) {
+            return open < OPEN_AT_ONCE || tokens.fail(FAULT_TOO_DEEP);
         }
 
         private boolean readTest(int open) {
             boolean good = readBoth(open);
             for (int i = 0; i < TAPE && good && tokens.isOwn(WORD_OR); i++) {
                 tokens.advance();
-                good = readBoth(open) && emit(DO_OR);
+                good = readBoth(open) && land.emit(DO_OR);
             }
             return good;
         }
@@ -1136,31 +1099,30 @@ public final class LakeMarket {
             boolean good = readFact(open);
             for (int i = 0; i < TAPE && good && tokens.isOwn(WORD_AND); i++) {
                 tokens.advance();
-                good = readFact(open) && emit(DO_AND);
+                good = readFact(open) && land.emit(DO_AND);
             }
             return good;
         }
 
         private boolean readFact(int open) {
             if (tokens.isOwn(WORD_NOT)) {
-                return takeOpening(open) && readFact(open + 1) && emit(DO_NOT);
+                return mayOpen(open) && tokens.advance() && readFact(open + 1) && land.emit(DO_NOT);
             }
             if (tokens.isSign('[')) {
-                return takeOpening(open) && readTest(open + 1) && takeSign(']');
+                return mayOpen(open) && tokens.advance() && readTest(open + 1)
+                        && tokens.needSign(']') && tokens.advance();
             }
             if (tokens.isOwn(WORD_ALL)) {
-                tokens.advance();
-                return emit(1);
+                return tokens.advance() && land.emit(1);
             }
             if (!readSum(open)) {
                 return false;
             }
             int op = compareOp();
             if (op == 0) {
-                return failForm();
+                return tokens.failForm();
             }
-            tokens.advance();
-            return readSum(open) && emit(op);
+            return tokens.advance() && readSum(open) && land.emit(op);
         }
 
         private int compareOp() {
@@ -1177,8 +1139,7 @@ public final class LakeMarket {
             boolean good = readProduct(open);
             for (int i = 0; i < TAPE && good && addOp() != 0; i++) {
                 int op = addOp();
-                tokens.advance();
-                good = readProduct(open) && emit(op);
+                good = tokens.advance() && readProduct(open) && land.emit(op);
             }
             return good;
         }
@@ -1194,8 +1155,7 @@ public final class LakeMarket {
             boolean good = readPart(open);
             for (int i = 0; i < TAPE && good && timesOp() != 0; i++) {
                 int op = timesOp();
-                tokens.advance();
-                good = readPart(open) && emit(op);
+                good = tokens.advance() && readPart(open) && land.emit(op);
             }
             return good;
         }
@@ -1212,43 +1172,35 @@ public final class LakeMarket {
 
         private boolean readPart(int open) {
             if (tokens.kind == Tokens.NUMBER) {
-                land.emit(tokens.value);
-                tokens.advance();
-                return true;
+                return land.emit(tokens.value) && tokens.advance();
             }
             if (tokens.isSign('(')) {
-                return takeOpening(open) && readSum(open + 1) && takeSign(')');
+                return mayOpen(open) && tokens.advance() && readSum(open + 1) && tokens.needSign(')') && tokens.advance();
             }
-            if (tokens.kind != Tokens.OWN) {
-                return failForm();
+            if (!tokens.needKind(Tokens.OWN)) {
+                return false;
             }
             switch (tokens.value) {
                 case WORD_MIN: return readPair(open, DO_MIN);
                 case WORD_MAX: return readPair(open, DO_MAX);
                 case WORD_IF: return readChoice(open);
-                default: return readFigure();
+                default: break;
             }
+            int op = figureOp(tokens.value);
+            return op == 0 ? tokens.failForm() : land.emit(op) && tokens.advance();
         }
 
         private boolean readPair(int open, int op) {
-            tokens.advance();
-            return takeBracket(open) && readSum(open + 1) && takeSign(',') && readSum(open + 1)
-                    && takeSign(')') && emit(op);
+            return tokens.advance() && tokens.needSign('(') && mayOpen(open) && tokens.advance() && readSum(open + 1)
+                    && tokens.needSign(',') && tokens.advance() && readSum(open + 1)
+                    && tokens.needSign(')') && tokens.advance() && land.emit(op);
         }
 
         private boolean readChoice(int open) {
-            tokens.advance();
-            return takeBracket(open) && readTest(open + 1) && takeSign(',') && readSum(open + 1)
-                    && takeSign(',') && readSum(open + 1) && takeSign(')') && emit(DO_CHOOSE);
-        }
-
-        private boolean readFigure() {
-            int op = figureOp(tokens.value);
-            if (op == 0) {
-                return failForm();
-            }
-            tokens.advance();
-            return emit(op);
+            return tokens.advance() && tokens.needSign('(') && mayOpen(open) && tokens.advance() && readTest(open + 1)
+                    && tokens.needSign(',') && tokens.advance() && readSum(open + 1)
+                    && tokens.needSign(',') && tokens.advance() && readSum(open + 1)
+                    && tokens.needSign(')') && tokens.advance() && land.emit(DO_CHOOSE);
         }
 
         private int figureOp(int word) {
@@ -1310,7 +1262,7 @@ public final class LakeMarket {
                 push(pop() != 0 ? first : second);
             } else {
                 int right = pop();
-                push(combine(op, pop(), right));
+                push(limited(combine(op, pop(), right)));
             }
         }
 
@@ -1329,12 +1281,12 @@ public final class LakeMarket {
             return stack[height];
         }
 
-        private static int combine(int op, int left, int right) {
+        private static long combine(int op, long left, long right) {
             switch (op) {
-                case DO_ADD: return limited((long) left + right);
-                case DO_LESS: return limited((long) left - right);
-                case DO_TIMES: return limited((long) left * right);
-                case DO_OVER: return right == 0 ? 0 : limited(Math.floorDiv(left, right));
+                case DO_ADD: return left + right;
+                case DO_LESS: return left - right;
+                case DO_TIMES: return left * right;
+                case DO_OVER: return right == 0 ? 0 : Math.floorDiv(left, right);
                 case DO_REST: return right == 0 ? 0 : Math.floorMod(left, right);
                 case DO_MIN: return Math.min(left, right);
                 case DO_MAX: return Math.max(left, right);
@@ -1607,7 +1559,7 @@ public final class LakeMarket {
         }
 
         boolean isBroke(int owner) {
-            return owedBy(owner) > worthOfOwner(owner);
+            return owedBy(owner) > worthOfBits(lakesOf(owner));
         }
     }
 
@@ -1775,7 +1727,7 @@ public final class LakeMarket {
         int fairest(Scene scene, int owner, int heirCount) {
             collect(scene, owner, true);
             Arrays.fill(shares, 0);
-            bestGap = Integer.MAX_VALUE;
+            bestGap = FAR;
             divide(0, 0, heirCount);
             return bestGap;
         }

@@ -10,6 +10,7 @@ public final class AheadTest {
         broke();
         spend();
         nearTheLastNight();
+        beyondTheLastNight();
         nothingChanges();
         Check.finish();
     }
@@ -113,6 +114,24 @@ public final class AheadTest {
         y.nights(90);
         Check.due("not beyond", y.spend(0, 0), 8);
         Check.due("not beyond", y.spend(0, 1), 9998);
+    }
+
+    /** What would come in nights that never come counts for nothing. */
+    private static void beyondTheLastNight() {
+        LakeMarket x = Check.market("hollow h holds 999 at 0;owner a;owner b;lake l has 20 in h of a;owes a b 9;"
+                + "worth has;leaks if(night>9989,1,0);");
+        LakeMarket y = Check.market("hollow h holds 999 at 0;owner a;lake l has 20 in h of a;"
+                + "worth 100-has;leaks if(night>9989,1,0);");
+        for (int i = 0; i < 99; i++) {
+            x.nights(100);
+            y.nights(100);
+        }
+        x.nights(90);
+        y.nights(90);
+        Check.due("behind 9 nights he still has 11", x.broke(0), -1);
+        Check.due("spent in the last night there is", y.spend(0, 0), 9);
+        Check.due("worth in the last night there is", y.spend(0, 1), 89);
+        Check.due("barrels in the last night there is", y.later(9, 0), 11);
     }
 
     private static void nothingChanges() {

@@ -115,7 +115,8 @@ public final class ChoiceTest {
         Check.due("three pairs", settling("owes a b 5;owes c d 6;owes e f 7;"), 3);
         Check.due("two threes", settling("owes a b 1;owes a c 2;owes d e 4;owes d f 8;"), 4);
         Check.due("all six", settling("owes a f 1;owes b f 2;owes c f 4;owes d f 8;owes e f 16;"), 5);
-        // nets -5 -4 -1 +2 +3 +5 : 5 with 5, and the others two by two make 4 with 5, not in pairs
+        // nets -5 and +5 settle by one payment; -4, -1, +2 and +3 just all together, by three
+        Check.due("a net of 1", settling("owes a b 1;"), 1);
         Check.due("a pair and a four", settling("owes a f 5;owes b d 2;owes b e 2;owes c e 1;"), 4);
     }
 

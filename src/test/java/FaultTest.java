@@ -246,6 +246,24 @@ public final class FaultTest {
         Check.fault("may not not not not not not not [all];", 5, 32);
         good("may not 1<2 and ((((((1))))))<(((((((1)))))));");
         Check.fault("leaks (((((((1)(;", 1, 15);
+        deepInEachPlace("min(", ",1)");
+        deepInEachPlace("min(1,", ")");
+        deepInEachPlace("max(", ",1)");
+        deepInEachPlace("max(1,", ")");
+        deepInEachPlace("if(", "=1,2,3)");
+        deepInEachPlace("if(all,", ",1)");
+        deepInEachPlace("if(all,1,", ")");
+        deepInEachPlace("if([not 1=", "],1,2)");
+    }
+
+    /** So many more are open in a sum's place that seven are, and then one more. */
+    private static void deepInEachPlace(String opening, String closing) {
+        int open = opening.contains("[") ? 3 : 1;
+        String more = "(((((((".substring(open);
+        String less = ")))))))".substring(open);
+        good("leaks " + opening + more + "1" + less + closing + ";");
+        String deep = "leaks " + opening + more + "(";
+        Check.fault(deep + "1)" + less + closing + ";", 5, deep.length() - 1);
     }
 
     private static void tooMany() {

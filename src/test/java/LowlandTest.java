@@ -50,6 +50,8 @@ public final class LowlandTest {
         Check.due("night", x.has(3), 3);
         Check.yes("seed", x.seed(77));
         Check.due("seed", x.has(10), 77);
+        LakeMarket one = Check.market("hollow h holds 1 at 0;owner a;lake l has 1 in h of a;");
+        Check.due("a lake of one barrel is there", one.has(4), 1);
     }
 
     private static void names() {
@@ -227,6 +229,7 @@ public final class LowlandTest {
     private static void emptyTexts() {
         LakeMarket x = Check.market(TEXT);
         Check.due("an empty text", x.lowland(), 0);
+        Check.due("no drought is left of the other one", x.chance(50), 0);
         Check.due("no hollows", x.has(0), 0);
         Check.due("no debts", x.has(7), 0);
         Check.due("no fault", x.fault(0), 0);

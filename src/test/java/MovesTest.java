@@ -8,6 +8,7 @@ public final class MovesTest {
         few();
         inEachOthersWay();
         fourAndMore();
+        longWays();
         refused();
         nothingChanges();
         Check.finish();
@@ -69,6 +70,20 @@ public final class MovesTest {
         Check.due("2 and 2", moves(x, 0, 2, 1, 2), 4);
         Check.due("3 and 2", moves(x, 0, 3, 1, 2), -1);
         Check.due("none of these is refused", x.status(5), 0);
+    }
+
+    /** Ways of four moves that are lost if two ways to lie are taken for one. */
+    private static void longWays() {
+        LakeMarket x = Check.market("hollow g holds 12 at 18;hollow h holds 16 at 19;hollow i holds 8 at 3;hollow j holds 7 at 17;owner a;"
+                + "lake k has 8 in h of a;lake l has 8 in g of a;lake m has 3 in h of a;lake n has 4 in j of a;lake o has 8 in i of a;"
+                + "lake p has 4 in h of a;");
+        Check.due("two told, four moves", moves(x, 0, 1, 1, 2), 4);
+        LakeMarket y = Check.market("hollow g holds 17 at 9;hollow h holds 13 at 7;hollow i holds 11 at 7;owner a;"
+                + "lake k has 1 in g of a;lake l has 2 in h of a;lake m has 5 in g of a;lake n has 7 in h of a;lake o has 7 in g of a;"
+                + "lake p has 8 in i of a;");
+        Check.due("one told, four moves", moves(y, 4, 1), 4);
+        LakeMarket z = Check.market("hollow g holds 99 at 0;hollow h holds 99 at 9;owner a;lake l has 5 in g of a;carts 5;");
+        Check.due("just as much as carts take", moves(z, 0, 1), 1);
     }
 
     private static void refused() {
