@@ -1833,7 +1833,7 @@ public final class LakeMarket {
                 counts[hollow] = scene.countIn(hollow);
             }
             for (int moves = 0; moves <= MOST; moves++) {
-                Arrays.fill(seen, 0);
+                forgetSeen(moves);
                 if (reaches(moves)) {
                     return moves;
                 }
@@ -1940,6 +1940,13 @@ public final class LakeMarket {
             counts[from]--;
             rooms[to] -= scene.barrels[lake];
             counts[to]++;
+        }
+
+        /** With fewer than two moves nothing is looked up. */
+        private void forgetSeen(int moves) {
+            if (moves > 1) {
+                Arrays.fill(seen, 0);
+            }
         }
 
         /** Whether all lay like this before with as many moves left; from now on it did. */

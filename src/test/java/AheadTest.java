@@ -87,6 +87,11 @@ public final class AheadTest {
         z.nights(7);
         Check.due("counted from now on", z.spend(0, 0), 100);
         Check.due("counted from now on", z.spend(0, 1), 107);
+        LakeMarket dry = Check.market("hollow h holds 99 at 0;owner a;owner b;lake l has 20 in h of a;owes a b 1;"
+                + "leaks has*drought;worth if(has>0,night+1,0);drought 100;");
+        Check.due("no droughts ahead", dry.spend(0, 0), 100);
+        Check.due("no droughts ahead", dry.broke(0), -1);
+        Check.due("no droughts ahead", dry.later(100, 0), 20);
     }
 
     private static void nearTheLastNight() {
