@@ -779,13 +779,16 @@ public final class LakeMarket {
                 next++;
             }
             if (behindText && from == before && isText()) {
+                // the missing blank comes ahead of a letter or digit too many
                 kind = BAD;
+                place = from;
             }
             return true;
         }
 
+        /** Whether a word or a number stands here, one that is too long, too. */
         private boolean isText() {
-            return kind == NAME || kind == OWN || kind == NUMBER;
+            return kind != END && kind != SIGN;
         }
 
         private static boolean isLetter(int octet) {

@@ -8,6 +8,7 @@ public final class FaultTest {
         wordsThatCannotStand();
         textsThatEndTooSoon();
         wordsAndNumbersThatAreTooLong();
+        tooLongWithoutABlank();
         ownWordsAreNoNames();
         blanks();
         otherBytes();
@@ -132,6 +133,55 @@ public final class FaultTest {
         Check.fault("owner a 99999;", 1, 12);
         Check.fault("carts 1000;", 4, 6);
         good("leaks 9999;");
+    }
+
+    /** The missing blank is the first fault along the text, whatever the second one is and wherever it stands. */
+    private static void tooLongWithoutABlank() {
+        Check.fault("drought 12abcdefg;", 1, 10);
+        Check.fault("drought 12abcdefghijklmnopqrstuvwxyz;", 1, 10);
+        Check.fault("drought 12abcdef;", 1, 10);
+        Check.fault("drought 12droughts;", 1, 10);
+        Check.fault("drought 12drought;", 1, 10);
+        Check.fault("drought 12 abcdefg;", 1, 17);
+        Check.fault("drought 12\nabcdefg;", 1, 17);
+        Check.fault("drought 12;abcdefg;", 1, 17);
+        Check.fault("owner ab12345;", 1, 8);
+        Check.fault("owner ab1234;", 1, 8);
+        Check.fault("owner ab 12345;", 1, 13);
+        Check.fault("owner ab;12345;", 1, 13);
+        Check.fault("drought12345;", 1, 7);
+        Check.fault("carts12345;", 1, 5);
+        Check.fault("owner12345;", 1, 5);
+        Check.fault("hollow h12345 holds 5 at 1;", 1, 8);
+        Check.fault("hollow h holds12345 at 1;", 1, 14);
+        Check.fault("hollow h holds 5abcdefg 1;", 1, 16);
+        Check.fault("hollow h holds 5 at12345;", 1, 19);
+        Check.fault("hollow h holds 5 at 1abcdefg;", 1, 21);
+        behindHead("lake l has12345 in h of a;", 1, 10);
+        behindHead("lake l has 5abcdefg h of a;", 1, 12);
+        behindHead("lake l has 5 in12345 of a;", 1, 15);
+        behindHead("lake l has 5 in h of a12345;", 1, 22);
+        behindHead("owes a b12345;", 1, 8);
+        behindHead("owes a b 5abcdefg;", 1, 10);
+        Check.fault("leaks12345;", 1, 5);
+        Check.fault("leaks has12345;", 1, 9);
+        Check.fault("leaks 5abcdefg;", 1, 7);
+        Check.fault("leaks min12345;", 1, 9);
+        Check.fault("leaks (5abcdefg);", 1, 8);
+        Check.fault("leaks (abcdefg);", 1, 13);
+        Check.fault("leaks (12345);", 1, 11);
+        Check.fault("leaks 5+12345;", 1, 12);
+        Check.fault("may12345<5;", 1, 3);
+        Check.fault("may not12345<5;", 1, 7);
+        Check.fault("may all12345;", 1, 7);
+        Check.fault("may 1<2abcdefg all;", 1, 7);
+        Check.fault("may all or12345<5;", 1, 10);
+        // what is wrong with the first one comes ahead of that
+        Check.fault("owner abcdefg12345;", 1, 12);
+        Check.fault("carts 12345abcdefg;", 1, 10);
+        Check.fault("carts 1000abcdefg;", 4, 6);
+        Check.fault("owner a;owner a12345;", 2, 14);
+        behindHead("owes x12345;", 3, 5);
     }
 
     private static void ownWordsAreNoNames() {

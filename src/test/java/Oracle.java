@@ -134,8 +134,11 @@ final class Oracle {
             }
         }
 
-        /** Fault 1 here: at a 7th letter or 5th digit, if what stands here has one. */
+        /** Fault 1 here: at a 7th letter or 5th digit, if what stands here has one and a blank ahead of it. */
         Fault form() {
+            if (isGlued()) {
+                return new Fault(1, at);
+            }
             String w = peekWord();
             if (w.length() > 6 && !OWN.contains(w)) {
                 return new Fault(1, at + 6);
@@ -146,11 +149,15 @@ final class Oracle {
             return new Fault(1, at);
         }
 
-        /** Words and numbers side by side need a blank. */
-        void apart() {
+        boolean isGlued() {
             boolean wordAhead = at > 0 && letterAt(at - 1);
             boolean numberAhead = at > 0 && digitAt(at - 1);
-            if (wordAhead && digitAt(at) || numberAhead && letterAt(at)) {
+            return wordAhead && digitAt(at) || numberAhead && letterAt(at);
+        }
+
+        /** Words and numbers side by side need a blank. */
+        void apart() {
+            if (isGlued()) {
                 throw form();
             }
         }

@@ -227,7 +227,7 @@ final class Texts {
         int at = below(text.length() + 1);
         String head = text.substring(0, at);
         String tail = text.substring(at);
-        switch (below(10)) {
+        switch (below(11)) {
             case 0: return head;
             case 1: return tail.isEmpty() ? head : head + tail.substring(1);
             case 2: return head + (char) below(256) + tail;
@@ -237,8 +237,14 @@ final class Texts {
             case 6: return head + (char) ('0' + below(10)) + tail;
             case 7: return spoiltStatement(text);
             case 8: return spoiltDepth(text);
+            case 9: return head + tooLong() + tail;
             default: return spoiltWord(text);
         }
+    }
+
+    /** Letters or digits that may be too many, and may stand side by side with what is ahead of them. */
+    private String tooLong() {
+        return below(2) == 0 ? "abcdefghi".substring(0, 5 + below(5)) : "1234567".substring(0, 3 + below(5));
     }
 
     /** A rule ahead of all else, with so many open at once that it may be one too many. */
