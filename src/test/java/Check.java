@@ -1,7 +1,13 @@
+import java.io.IOException;
+import java.nio.file.Files;
+import java.nio.file.Path;
+import java.util.Arrays;
+
 /** What the tests share: objects made from texts, and answers held against what is due. */
 final class Check {
     private static int calls = 0;
     private static int wrong = 0;
+    private static String sentence = "";
 
     private Check() {
     }
@@ -10,7 +16,7 @@ final class Check {
         calls++;
         if (got != want) {
             wrong++;
-            System.out.println(what + " answered " + got + ", due is " + want);
+            System.out.println(sentence + what + " answered " + got + ", due is " + want);
         }
     }
 
@@ -27,6 +33,30 @@ final class Check {
         System.out.println(calls + " answers, " + wrong + " of them not as due");
         if (wrong != 0 || calls == 0) {
             System.exit(1);
+        }
+    }
+
+    /**
+     * The document's words that the answers from here on are due by; told with each one that is wrong.
+     * With -Ddoc=../shared/DOC.md it is looked up whether the document says so.
+     */
+    static void sentence(String words) {
+        sentence = "[" + words + "] ";
+        String doc = System.getProperty("doc");
+        if (doc != null) {
+            yes("the document says so", plain(read(doc)).contains(plain(words)));
+        }
+    }
+
+    private static String plain(String text) {
+        return text.replace("`", "").replaceAll("\\s+", " ");
+    }
+
+    private static String read(String file) {
+        try {
+            return Files.readString(Path.of(file));
+        } catch (IOException e) {
+            return "";
         }
     }
 
@@ -77,5 +107,44 @@ final class Check {
         due("fault(1) of: " + text, x.fault(1), place);
         due("refused: " + text, x.status(1), kind == 0 ? 0 : 1);
         due("lowland() tells a fault: " + text, told == LakeMarket.NONE ? 1 : 0, kind == 0 ? 0 : 1);
+    }
+
+    /** The bytes with the one behind them that makes an image of them. */
+    static int[] checked(int... row) {
+        int[] all = Arrays.copyOf(row, row.length + 1);
+        int c = 149;
+        for (int octet : row) {
+            c = (5 * c + octet) % 251;
+        }
+        all[row.length] = c;
+        return all;
+    }
+
+    /** The bytes of a new image, without the last one. */
+    static int[] picture(LakeMarket x) {
+        int[] row = new int[x.image() - 1];
+        for (int k = 0; k < row.length; k++) {
+            row[k] = x.octet(k);
+        }
+        return row;
+    }
+
+    static boolean on(LakeMarket x, int... row) {
+        rows(x, row);
+        return x.on();
+    }
+
+    /** Two bytes put into an image at a place: whether it is one still; all is as it tells then. */
+    static boolean onWith(LakeMarket x, int place, int pair) {
+        int[] row = picture(x);
+        row[place] = pair / 256;
+        row[place + 1] = pair % 256;
+        return on(x, checked(row));
+    }
+
+    static LakeMarket at(int night, String text) {
+        LakeMarket x = market(text);
+        yes("at night " + night, onWith(x, 0, night));
+        return x;
     }
 }

@@ -21,8 +21,9 @@ public final class UndoTest {
         for (int k = 0; k < size; k++) {
             all.append(x.octet(k)).append(' ');
         }
-        all.append("kept ").append(x.has(8));
-        for (int k = 0; k < x.has(8); k++) {
+        int kept = x.has(8);
+        all.append("kept ").append(kept);
+        for (int k = 0; k < kept; k++) {
             for (int what = 0; what < 4; what++) {
                 all.append(' ').append(x.kept(k, what));
             }
@@ -65,23 +66,26 @@ public final class UndoTest {
         }
     }
 
-    private static void twentyActs() {
+    /** A new object each time: looking takes many calls, and an object has 512 of them. */
+    private static LakeMarket acted(int acts, int undone) {
         LakeMarket x = Check.market(TEXT);
-        String[] looks = new String[26];
-        for (int i = 0; i < 26; i++) {
-            looks[i] = look(x);
-            if (i < 25) {
-                Check.yes("move", x.move(0, 1 - i % 2) || x.nights(1) > 0);
-                Check.due("acts", x.has(9), Math.min(20, i + 1));
-            }
+        for (int i = 0; i < acts; i++) {
+            Check.yes("move", x.move(0, 1 - i % 2) || x.nights(1) > 0);
+            Check.due("acts", x.has(9), Math.min(20, i + 1));
         }
-        for (int i = 24; i >= 5; i--) {
+        for (int i = 1; i <= undone; i++) {
             Check.yes("undo", x.undo());
-            Check.due("acts", x.has(9), i - 5);
-            Check.yes("as ahead of act " + i, look(x).equals(looks[i]));
+            Check.due("acts", x.has(9), Math.min(20, acts) - i);
         }
+        return x;
+    }
+
+    private static void twentyActs() {
+        for (int undone = 1; undone <= 20; undone++) {
+            Check.yes("as ahead of the last " + undone, look(acted(25, undone)).equals(look(acted(25 - undone, 0))));
+        }
+        LakeMarket x = acted(25, 20);
         Check.no("the last 20 alone", x.undo());
-        Check.yes("stays", look(x).equals(looks[5]));
         Check.due("refused", x.status(4), 1);
     }
 
@@ -158,18 +162,25 @@ public final class UndoTest {
         Check.due("no 41st", x.kept(40, 0), -1);
     }
 
-    private static void keptComesBack() {
-        LakeMarket x = Check.market("hollow h holds 9 at 0;owner a;owner b;lake l has 9 in h of a;worth 1;");
-        String[] looks = new String[71];
-        for (int i = 0; i < 70; i++) {
-            looks[i] = look(x);
-            x.pay(i % 2, 1 - i % 2, 1);
+    private static LakeMarket paid(int payments, int undone) {
+        LakeMarket x = Check.market("hollow h holds 99 at 0;owner a;owner b;lake l has 9 in h of a;lake m has 8 in h of b;");
+        for (int i = 0; i < payments; i++) {
+            int lake = i % 3 % 2;
+            int owner = x.lake(lake, 2);
+            x.pay(owner, 1 - owner, 1 << lake);
         }
-        for (int i = 69; i >= 50; i--) {
+        for (int i = 0; i < undone; i++) {
             Check.yes("undo", x.undo());
-            Check.yes("payments as ahead of " + i, look(x).equals(looks[i]));
         }
-        Check.due("forty are told still", x.has(8), 40);
-        Check.no("no more", x.undo());
+        return x;
+    }
+
+    private static void keptComesBack() {
+        for (int undone = 1; undone <= 20; undone++) {
+            LakeMarket x = paid(70, undone);
+            Check.due("forty are told still", x.has(8), 40);
+            Check.yes("payments as ahead of the last " + undone, look(x).equals(look(paid(70 - undone, 0))));
+        }
+        Check.no("no more", paid(70, 20).undo());
     }
 }
