@@ -34,6 +34,7 @@ public final class BoundsActTest {
         undoTwenty();
         undoGoesRound();
         undoOfEachAct();
+        undoOfAllThereMayBe();
         refusedIsNoAct();
         seed();
         keptNoneSuch();
@@ -582,6 +583,31 @@ public final class BoundsActTest {
             Check.due("but the seed", x.has(10), seed);
             Check.due("acts", x.has(9), acts);
         }
+    }
+
+    private static void undoOfAllThereMayBe() {
+        Check.sentence("The latest ACT is undone: all is as it was ahead of it (but the seed): true;");
+        StringBuilder text = new StringBuilder();
+        for (char c = 'a'; c <= 'h'; c++) {
+            text.append("hollow h").append(c).append(" holds 99 at 0;");
+        }
+        for (char c = 'a'; c <= 'f'; c++) {
+            text.append("owner p").append(c).append(";");
+        }
+        for (int i = 0; i < 8; i++) {
+            text.append("lake l").append((char) ('a' + i)).append(" has ").append(10 + i).append(" in h").append((char) ('h' - i))
+                    .append(" of p").append((char) ('a' + i % 6)).append(";");
+        }
+        LakeMarket x = fresh(text + "owes pf pe 50;owes pe pf 60;owes pa pf 70;leaks 1;");
+        int[] ahead = Check.picture(x);
+        Check.due("strike", strike(x, 5, 4), 50);
+        Check.due("pay", x.pay(5, 0, 32), 15);
+        Check.due("nights", x.nights(20), 8 * 10 + 28);
+        Check.due("all are gone", x.has(4), 0);
+        for (int i = 0; i < 3; i++) {
+            Check.yes("undo", x.undo());
+        }
+        Check.yes("as ahead of them", Arrays.equals(ahead, Check.picture(x)));
     }
 
     private static void refusedIsNoAct() {

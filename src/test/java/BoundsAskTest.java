@@ -24,6 +24,7 @@ public final class BoundsAskTest {
         brokeFirst();
         brokeNotBeyond9999();
         brokeNoneSuch();
+        noDroughtsAhead();
         spend();
         spendTheSoonest();
         spendNotBeyond9999();
@@ -341,6 +342,17 @@ public final class BoundsAskTest {
             Check.due("broke(" + owner + ")", x.broke(owner), -1);
         }
         Check.due("one more than is told", Check.market(ONE + "owes b a 1;").broke(2), -1);
+    }
+
+    private static void noDroughtsAhead() {
+        Check.sentence("AHEAD are NIGHTS as they come from now on without DRAWS");
+        LakeMarket x = Check.market(ONE + "leaks if(drought=0,0,has);drought 100;worth if(has>0,night+1,0);owes a b 1;");
+        Check.due("later", x.later(100, 0), 200);
+        Check.due("later, all", x.later(100, -1), 101);
+        Check.due("broke", x.broke(0), -1);
+        Check.due("spend", x.spend(0, 0), 100);
+        Check.due("spend", x.spend(0, 1), 101);
+        Check.due("no draw was made", x.has(10), 1);
     }
 
     private static void spend() {

@@ -11,12 +11,16 @@ public final class BoundsChoiceTest {
         movesUnlikeLakes();
         movesThatThereAre();
         movesFourAtMost();
+        movesOutOfTheWay();
+        movesByWhatLiesThere();
+        movesAskedAgain();
         movesNoneIsNotRefused();
         packWhole();
         packOthersStay();
         packNoneSuch();
         net();
         settling();
+        settlingAgain();
         shareHeirs();
         shareLakes();
         shareOfLikeOnes();
@@ -27,6 +31,7 @@ public final class BoundsChoiceTest {
         robbedBarrels();
         robbedAheadOfAny();
         robbedAllThatAreLeft();
+        robbedWithoutADrought();
         robbedSomeLeft();
         robbedJustOne();
         Check.finish();
@@ -179,6 +184,79 @@ public final class BoundsChoiceTest {
         }
     }
 
+    private static void movesOutOfTheWay() {
+        Check.sentence("the fewest LAKES moved, one behind the other in this NIGHT (4 at most), so that all lie where they are told.");
+        // two that change their hollows: by way of a third one that just holds the one, or does not
+        String two = "owner a;lake k has 5 in ha of a;lake l has 6 in hb of a;";
+        Check.due("no third one", moves(Check.market(hollows(6, 6) + two), 0, 1, 1, 0), -1);
+        Check.due("the third one holds neither", moves(Check.market(hollows(6, 6, 4) + two), 0, 1, 1, 0), -1);
+        Check.due("the third one just holds one", moves(Check.market(hollows(6, 6, 5) + two), 0, 1, 1, 0), 3);
+        Check.due("the third one just holds one of them, which stays there", moves(Check.market(hollows(6, 6, 5) + two), 1, 0), 2);
+        Check.due("there is room for both at once", moves(Check.market(hollows(11, 6) + two), 0, 1, 1, 0), 2);
+        Check.due("one barrel too few for that", moves(Check.market(hollows(10, 6) + two), 0, 1, 1, 0), -1);
+        // one that lies in the way and is told nothing
+        String three = "owner a;lake k has 5 in ha of a;lake l has 6 in hb of a;lake m has 4 in hc of a;";
+        Check.due("it goes aside first", moves(Check.market(hollows(9, 6, 8) + three), 0, 1), 3);
+        Check.due("it can't", moves(Check.market(hollows(8, 6, 8) + three), 0, 1), -1);
+        Check.due("the one that is told goes aside itself", moves(Check.market(hollows(8, 6, 9) + three), 0, 1), 3);
+        // four in a row, each must go on by one from the last on
+        String chain = "owner a;lake k has 9 in ha of a;lake l has 9 in hb of a;lake m has 9 in hc of a;lake n has 9 in hd of a;";
+        Check.due("four go on", moves(Check.market(hollows(9, 9, 9, 9, 9) + chain), 0, 1, 1, 2, 2, 3, 3, 4), 4);
+        Check.due("the first one alone is told", moves(Check.market(hollows(9, 9, 9, 9, 9) + chain), 0, 1), 2);
+        Check.due("all four go round", moves(Check.market(hollows(9, 9, 9, 9, 9) + chain), 0, 1, 1, 2, 2, 3, 3, 0), -1);
+        Check.due("three go round", moves(Check.market(hollows(9, 9, 9, 9, 9) + chain), 0, 1, 1, 2, 2, 0), 4);
+        Check.due("no hollow is free", moves(Check.market(hollows(9, 9, 9, 9) + chain), 0, 1, 1, 0), -1);
+    }
+
+    private static void movesByWhatLiesThere() {
+        Check.sentence("the fewest LAKES moved, one behind the other in this NIGHT (4 at most), so that all lie where they are told.");
+        String text = hollows(99, 99, 99) + "owner a;lake k has 5 in ha of a;lake l has 6 in ha of a;lake m has 7 in ha of a;";
+        // a lake of 5 goes just where so many lie
+        int[][] rows = {{0, 1}, {1, 2}, {2, 3}, {3, -1}};
+        for (int[] row : rows) {
+            LakeMarket x = Check.market(text + "may has>5 or beside=" + row[0] + ";");
+            Check.due("beside " + row[0], moves(x, 0, 1), row[1]);
+        }
+        // or just where there is so much room
+        int[][] rooms = {{99, 1}, {93, 2}, {92, 2}, {86, 3}, {98, -1}};
+        for (int[] row : rooms) {
+            LakeMarket x = Check.market(text + "may has>5 or free=" + row[0] + ";");
+            Check.due("free " + row[0], moves(x, 0, 1), row[1]);
+        }
+        // one lies there from the first on
+        String there = hollows(99, 99, 99) + "owner a;lake k has 5 in ha of a;lake l has 6 in hb of a;lake m has 7 in ha of a;";
+        int[][] besides = {{0, 2}, {1, 1}, {2, 2}, {3, -1}};
+        for (int[] row : besides) {
+            LakeMarket x = Check.market(there + "may has>5 or beside=" + row[0] + ";");
+            Check.due("beside " + row[0] + ", one is there", moves(x, 0, 1), row[1]);
+        }
+        LakeMarket back = Check.market(text + "may has>5 or beside=2;");
+        Check.due("company, of which one goes back", moves(back, 0, 1, 1, 0), 4);
+        Check.due("company, of which both go back", moves(back, 0, 1, 1, 0, 2, 0), -1);
+        LakeMarket carts = Check.market(text + "carts 5;");
+        Check.due("the cart's load", moves(carts, 0, 1), 1);
+        Check.due("more than it", moves(carts, 0, 1, 1, 1), -1);
+        Check.due("more than it that stays", moves(carts, 0, 1, 1, 0, 2, 0), 1);
+    }
+
+    private static void movesAskedAgain() {
+        Check.sentence("the fewest LAKES moved, one behind the other in this NIGHT (4 at most), so that all lie where they are told.");
+        LakeMarket x = Check.market(hollows(9, 9, 9, 9, 9)
+                + "owner a;lake k has 9 in ha of a;lake l has 9 in hb of a;lake m has 9 in hc of a;lake n has 9 in hd of a;");
+        for (int times = 0; times < 3; times++) {
+            Check.due("two", moves(x, 0, 1), 2);
+            Check.due("two again", moves(x, 0, 1), 2);
+            Check.due("three", moves(x, 0, 1, 1, 0), 3);
+            Check.due("three again", moves(x, 0, 1, 1, 0), 3);
+            Check.due("four", moves(x, 0, 1, 1, 2, 2, 0), 4);
+            Check.due("four again", moves(x, 0, 1, 1, 2, 2, 0), 4);
+            Check.due("more", moves(x, 0, 1, 1, 2, 2, 3, 3, 0), -1);
+            Check.due("none", moves(x, 0, 0), 0);
+        }
+        Check.yes("all lie where they lay", x.hollow(0, 3) == 1 && x.hollow(4, 3) == 0);
+        Check.due("no act", x.has(9), 0);
+    }
+
     private static void movesNoneIsNotRefused() {
         Check.sentence("NONE, when 4 are not enough, and, refused (5), when it is none such.");
         LakeMarket x = Check.market(EIGHT + "may not all;");
@@ -241,6 +319,9 @@ public final class BoundsChoiceTest {
         packed(hollows(11, 11, 14) + other, 1, 1);
         packed(hollows(10, 11, 14) + other, 2, 1);
         packed(hollows(6, 6, 14) + other.replace("has 3", "has 4"), 3, 2);
+        // by their barrels, whatever they are worth
+        packed(hollows(5, 6, 14) + other + "worth 9999;", 4, 1);
+        packed(hollows(5, 6, 13) + other + "worth 0;", 3, 2);
     }
 
     private static void packNoneSuch() {
@@ -300,6 +381,37 @@ public final class BoundsChoiceTest {
         Check.due("five at most", Check.market(six + "owes a f 1;owes b f 2;owes c f 4;owes d f 8;owes e f 16;").settling(), 5);
         Check.due("four: two groups", Check.market(six + "owes a f 1;owes b f 2;owes c e 4;owes d e 8;").settling(), 4);
         Check.due("three: three groups", Check.market(six + "owes a f 1;owes b e 2;owes c d 4;").settling(), 3);
+        Check.due("two of 1 to one of 2", Check.market(six + "owes a c 1;owes b c 1;").settling(), 2);
+        Check.due("one of 2 to two of 1", Check.market(six + "owes a b 1;owes a c 1;").settling(), 2);
+        Check.due("two pairs of tens", Check.market(six + "owes a b 10;owes c d 30;").settling(), 2);
+        Check.due("a three and a pair of tens", Check.market(six + "owes a b 10;owes a c 20;owes d e 50;").settling(), 3);
+        Check.due("a pair that nearly is one", Check.market(six + "owes a b 10;owes c d 30;owes a d 1;").settling(), 3);
+    }
+
+    /** What was asked before counts for nothing. */
+    private static void settlingAgain() {
+        Check.sentence("SETTLING: the fewest payments (each of one OWNER to another one) by which all NETS would be 0.");
+        LakeMarket x = Check.market("hollow h holds 99 at 0;owner a;owner b;owner c;owner d;owner e;owner f;" + lakes("a", 1, 2, 3, 4, 5, 6, 7, 8)
+                + "owes a b 10;owes c d 20;owes e f 40;");
+        Check.due("three pairs", x.settling(), 3);
+        x.price(0, 20, 0);
+        x.pack(0, 0);
+        x.share(0, 3, -1);
+        Check.due("three pairs still", x.settling(), 3);
+        int[] row = Check.picture(x);
+        int[] debts = new int[36];
+        for (int owner = 0; owner < 5; owner++) {
+            debts[owner * 6 + 5] = 1 << owner;
+        }
+        for (int i = 0; i < 36; i++) {
+            row[34 + 2 * i] = 0;
+            row[35 + 2 * i] = debts[i];
+        }
+        Check.yes("on", Check.on(x, Check.checked(row)));
+        Check.due("all six in one", x.settling(), 5);
+        Check.due("price", x.price(0, 36, 0), 255);
+        Check.due("share", x.share(0, 2, -1), 0);
+        Check.due("all six in one", x.settling(), 5);
     }
 
     private static void shareHeirs() {
@@ -499,6 +611,21 @@ public final class BoundsChoiceTest {
         Check.due("nobody", x.robbed(1), 256);
         stood(x, 0, 0, 6);
         Check.due("more than are left", x.robbed(1), 0);
+    }
+
+    private static void robbedWithoutADrought() {
+        Check.sentence("STOOD are rows of LAKE, BARRELS, behind the next NIGHT, in which, when all has leaked");
+        LakeMarket x = Check.market(HEAD + lakes("a", 6) + "leaks 1+drought;drought 100;");
+        int[] left = {4, 5, 6};
+        for (int barrels : left) {
+            stood(x, 0, 0, barrels);
+            Check.due("stood with " + barrels, x.robbed(1), barrels == 5 ? 256 : barrels == 4 ? 1 : 0);
+        }
+        x.nights(1);
+        Check.due("the next night is another one now", x.robbed(1), 0);
+        stood(x, 0, 0, 4);
+        Check.due("behind the next night", x.robbed(1), 256);
+        Check.due("nothing leaks of itself", x.lake(0, 0), 5);
     }
 
     private static void robbedSomeLeft() {

@@ -10,10 +10,12 @@ public final class BoundsFaultTest {
 
     public static void main(String[] args) {
         endsTooSoon();
+        emptyPlaces();
         wholeAtTheirFirstByte();
         seventhLetter();
         fifthDigit();
         seventhLetterAndFifthDigitAnywhere();
+        tooLongSideBySide();
         ownWordForAName();
         figuresOfEachRule();
         nameThatIsThere();
@@ -53,6 +55,31 @@ public final class BoundsFaultTest {
                 Check.fault(text + "\n", 1, text.length() + 1);
             }
             text.append(' ');
+        }
+    }
+
+    /** Where something must stand and nothing does, the fault is at what comes next. */
+    private static void emptyPlaces() {
+        Check.sentence("1 the first byte with which no LOWLAND goes on");
+        String[] texts = {"hollow ^holds 5 at 1;", "hollow i ^5 at 1;", "hollow i holds ^at 1;", "hollow i holds 5 ^1;", "hollow i holds 5 at ^;",
+            "hollow i holds 5 at 1 ^owner c;", "owner ^;", "owner c ^owner d;", "owes ^;", "drought ^;", "carts ^;", "^;", "leaks ^;",
+            "leaks (^);", "leaks 1+^;", "leaks 1-^;", "leaks 1*^;", "leaks 1/^;", "leaks 1%^;", "leaks ^+1;", "leaks (1+^);", "leaks 1^);",
+            "leaks (1^;", "leaks 1^(2);", "leaks min^;", "leaks min^1,2);", "leaks min(^,2);", "leaks min(1 ^2);",
+            "leaks min(1,^);", "leaks min(1,2^;", "leaks min(1^);", "leaks max(^);", "leaks max(1,2^,3);", "leaks if^;", "leaks if(^,1,2);",
+            "leaks if(all^);", "leaks if(all,^,2);", "leaks if(all,1^);", "leaks if(all,1,^);", "leaks if(all,1,2^,3);", "leaks if(1^,2,3);",
+            "worth ^;", "may ^;", "may [^];", "may [all^;", "may all^];", "may not ^;", "may not ^or all;", "may all and ^;", "may all or ^;",
+            "may ^and all;", "may ^or all;", "may 1^;", "may 1<^;", "may ^<1;", "may ^=1;", "may 1=1^=1;", "may 1^,1;", "may (1^=1);",
+            "may [1^];", "may all ^all;", "may all ^not all;", "may all^<1;", "leaks ^not 1;", "leaks ^[1];", "leaks 1;^;"};
+        for (String text : texts) {
+            int place = text.indexOf('^');
+            Check.fault(text.replace("^", ""), 1, place);
+            Check.fault((HEAD + text).replace("^", ""), 1, HEAD.length() + place);
+        }
+        String[] behind = {"lake ^has 5 in h of a;", "lake l ^5 in h of a;", "lake l has ^in h of a;", "lake l has 5 ^h of a;",
+            "lake l has 5 in ^of a;", "lake l has 5 in h ^a;", "lake l has 5 in h of ^;", "lake l has 5 in h of a ^owner c;",
+            "owes ^5;", "owes a ^5;", "owes a b ^;", "owes a b 5 ^5;"};
+        for (String text : behind) {
+            behindHead(text.replace("^", ""), 1, text.indexOf('^'));
         }
     }
 
@@ -120,6 +147,23 @@ public final class BoundsFaultTest {
         }
         Check.fault(text + "abcdefg", 1, text.length() + 6);
         Check.fault(text + "12345", 1, text.length() + 4);
+    }
+
+    private static void tooLongSideBySide() {
+        Check.sentence("(words and numbers side by side need one)");
+        Check.fault("drought 12abcdef;", 1, 10);
+        Check.fault("drought 12abcdefg;", 1, 10);
+        Check.fault("drought 12 abcdefg;", 1, 17);
+        Check.fault("owner ab1234;", 1, 8);
+        Check.fault("owner ab12345;", 1, 8);
+        Check.fault("owner ab 12345;", 1, 13);
+        Check.fault("owner abcdef12345;", 1, 12);
+        Check.fault("owner abcdefg12345;", 1, 12);
+        Check.fault("leaks 1234abcdefg;", 1, 10);
+        Check.fault("leaks 12345abcdefg;", 1, 10);
+        Check.fault("leaks drought12345;", 1, 13);
+        Check.fault("leaks (12345);", 1, 11);
+        Check.fault("leaks (abcdefg);", 1, 13);
     }
 
     private static void ownWordForAName() {

@@ -11,6 +11,7 @@ public final class BoundsRuleTest {
         whatIsLeft();
         firstOrSecondSum();
         signs();
+        factsTogether();
         fromTheLeftOn();
         beside();
         steps();
@@ -150,6 +151,34 @@ public final class BoundsRuleTest {
                 sum("if(" + told(a) + "<" + told(b) + ",1,2)", a < b ? 1 : 2);
                 sum("if(" + told(a) + ">" + told(b) + ",1,2)", a > b ? 1 : 2);
                 sum("if(" + told(a) + "=" + told(b) + ",1,2)", a == b ? 1 : 2);
+            }
+        }
+    }
+
+    private static void factsTogether() {
+        Check.sentence("TEST: BOTH { or BOTH }. BOTH: FACT { and FACT }. FACT: not FACT; [ TEST ] ; all; SUM SIGN SUM");
+        String[] yes = {"all", "1<2", "2>1", "1=1", "not 2<1", "[all]"};
+        String[] no = {"not all", "2<1", "1>2", "1=2", "not 1<2", "[not all]"};
+        for (String a : yes) {
+            for (String b : yes) {
+                sum("if(" + a + " and " + b + ",1,0)", 1);
+                sum("if(" + a + " or " + b + ",1,0)", 1);
+            }
+            for (String b : no) {
+                sum("if(" + a + " and " + b + ",1,0)", 0);
+                sum("if(" + b + " and " + a + ",1,0)", 0);
+                sum("if(" + a + " or " + b + ",1,0)", 1);
+                sum("if(" + b + " or " + a + ",1,0)", 1);
+                sum("if(" + a + " or " + a + " and " + b + ",1,0)", 1);
+                sum("if([" + a + " or " + a + "] and " + b + ",1,0)", 0);
+                sum("if(not [" + a + " and " + b + "],1,0)", 1);
+            }
+        }
+        for (String a : no) {
+            for (String b : no) {
+                sum("if(" + a + " and " + b + ",1,0)", 0);
+                sum("if(" + a + " or " + b + ",1,0)", 0);
+                sum("if(not [" + a + " or " + b + "],1,0)", 1);
             }
         }
     }

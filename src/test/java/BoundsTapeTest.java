@@ -16,6 +16,8 @@ public final class BoundsTapeTest {
         theTapeGoes();
         aFaultLeavesAll();
         withoutAFaultAllIsAsAtFirst();
+        nothingIsLeftOfOtherTexts();
+        longTextsOneAfterAnother();
         faultWithoutAndAheadOfAny();
         faultForAnotherWhat();
         Check.finish();
@@ -245,6 +247,41 @@ public final class BoundsTapeTest {
             Check.due("told of a row", x.robbed(1), -1);
             Check.due("the seed", x.has(10), 7);
             Check.due("no drought", x.chance(9), 0);
+        }
+    }
+
+    private static void nothingIsLeftOfOtherTexts() {
+        Check.sentence("Without one all is as at first");
+        String plain = "hollow h holds 9 at 0;hollow i holds 9 at 5;owner a;owner b;lake l has 5 in h of a;";
+        String rules = "owes a b 7;owes b a 8;leaks 2;worth 3;may not all;drought 100;carts 4;";
+        String[] others = {plain + rules, plain + rules + "x", rules, plain + "owner c;owner d;owes d c 9;lake m has 1 in i of d;"};
+        for (String first : others) {
+            for (String second : others) {
+                LakeMarket x = new LakeMarket();
+                Check.tell(x, first);
+                Check.tell(x, second);
+                Check.due("lowland", Check.tell(x, plain), 5);
+                int[] want = {2, 2, 1, 0, 1, 5, 5, 0, 0, 0, 1};
+                for (int what = 0; what < want.length; what++) {
+                    Check.due("has(" + what + ")", x.has(what), want[what]);
+                }
+                Check.due("worth its barrels", x.lake(0, 3), 5);
+                Check.due("leaks nothing", x.lake(0, 4), 0);
+                Check.due("owes nothing", x.owes(0, 1), 0);
+                Check.yes("may always, carts 999", x.move(0, 1));
+                Check.due("no drought", x.chance(100), 0);
+            }
+        }
+    }
+
+    private static void longTextsOneAfterAnother() {
+        Check.sentence("The tape (it goes) is THE LOWLAND: how many STATEMENTS;");
+        String head = "hollow h holds 9 at 0;owner a;lake l has 5 in h of a;worth 1";
+        int ones = (1600 - head.length() - 1) / 2;
+        LakeMarket x = new LakeMarket();
+        for (int times = 0; times < 5; times++) {
+            Check.due("lowland", Check.tell(x, head + "+1".repeat(ones) + ";"), 4);
+            Check.due("worth", x.lake(0, 3), ones + 1);
         }
     }
 

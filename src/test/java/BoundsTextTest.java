@@ -228,6 +228,7 @@ public final class BoundsTextTest {
                 found++;
                 Check.due("1 with a draw of " + draw, drawn("drought 1;", seed), draw == 0 ? 1 : 0);
                 Check.due("0 with a draw of " + draw, drawn("drought 0;", seed), 0);
+                Check.due("without with a draw of " + draw, drawn("", seed), 0);
                 Check.due("99 with a draw of " + draw, drawn("drought 99;", seed), draw == 0 ? 1 : 0);
                 Check.due("100 with a draw of " + draw, drawn("drought 100;", seed), 1);
             }

@@ -68,12 +68,12 @@ final class Check {
         return row;
     }
 
-    /** Puts bytes behind those on the tape, which must be as many as said. */
+    /** Puts bytes behind those on the tape, which must be as many as said; what end() cuts off is of no use to anyone. */
     static void tape(LakeMarket x, int onTape, int... row) {
         for (int at = 0; at < row.length; at += 20) {
             int[] five = new int[5];
             for (int k = 0; k < 20; k++) {
-                int octet = at + k < row.length ? row[at + k] : 0;
+                int octet = at + k < row.length ? row[at + k] : 255;
                 five[k / 4] = (five[k / 4] << 8) | octet;
             }
             x.feed(five[0], five[1], five[2], five[3], five[4]);
